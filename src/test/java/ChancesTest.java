@@ -83,6 +83,13 @@ public final class ChancesTest {
         DUE.due("about(2) after days", x.about(2), 0);
         DUE.due("about(4) after days", x.about(4), 0);
         x.days(40);
+        // Of one horse and three riders: 2, 0, 1, 1, 2.
+        Due.tell(x, "FH21000000R0000R0000R0000");
+        int[] ofOne = {4, 5, 3, 3, 3};
+        for (int m = 1; m <= 5; m++) {
+            x.seed(0);
+            DUE.due("days(" + m + ") of one horse", x.days(m), ofOne[m - 1]);
+        }
         // Of -1 the first draw has its upper bit set: it is 31 bits without a sign.
         Due.tell(x, "FH11009000H10101000R1900R9103");
         x.seed(-1);

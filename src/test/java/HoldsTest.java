@@ -102,12 +102,21 @@ public final class HoldsTest {
         Due.tell(x, "FH10000000");
         DUE.due("holds() without riders", x.holds(), 1);
         DUE.due("sure(0) without riders", x.sure(0), -1);
+        // Nobody bolts when the rider has the horse, but it is not worth enough.
+        Due.tell(x, "FH10000001R0000");
+        DUE.due("holds() of one not worth enough", x.holds(), 1);
+        DUE.due("sure(0) of one not worth enough", x.sure(0), 9);
         x = Due.fairOf(FairTest.FAIR);
+        DUE.due("sure(2) asked first", x.sure(2), 1);
         DUE.due("holds()", x.holds(), 1);
         int[] want = {9, 0, 1, 0};
         for (int r = 0; r < 4; r++) {
             DUE.due("sure(" + r + ")", x.sure(r), want[r]);
         }
+        x.dress(0, 0);
+        x.dress(0, 0);
+        DUE.due("sure(0) dressed", x.sure(0), 0);
+        DUE.due("sure(3) when 0 is dressed", x.sure(3), 9);
     }
 
     private static void forging() {
@@ -185,8 +194,8 @@ public final class HoldsTest {
         x.dress(3, 2);
         x.dress(3, 2);
         // Rider 3 is worth 10 to horse 1 now: 7 and 1, with 6 and 6.
-        DUE.due("race() dressed", x.race(), 20);
         DUE.due("raceOf(3) dressed", x.raceOf(3), 1);
+        DUE.due("race() dressed", x.race(), 20);
     }
 
     private static void racingTies() {

@@ -179,6 +179,9 @@ public final class LearntTest {
         Due.tell(x, "FH30000000R9000R9000R9000");
         saddles(x, new int[] {0, 0, 27}, 1, 7);
         saddles(x, new int[] {0, 0, 18}, 3, 0);
+        Due.tell(x, "FH31000001R0100R1200");
+        saddles(x, new int[] {0, 1, 1}, 0, -9);
+        saddles(x, new int[] {0, 1, 2}, 1, 2);
         Due.tell(x, "FH30000000");
         saddles(x, new int[] {0, 0, 0}, 1, 0);
         saddles(x, new int[] {0, 0, 1}, 0, -9);
