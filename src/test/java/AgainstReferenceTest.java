@@ -2,8 +2,10 @@ import java.util.Random;
 
 /** Many runs of calls, drawn by fixed seeds, on the program and on the reference. */
 public final class AgainstReferenceTest {
-    private static final int RUNS = 1500;
-    private static final int CALLS = 400;
+    private static final int RUNS = 3200;
+    /** What later calls of one object answer is free. */
+    private static final int CALLS = 512;
+    private static final int[] FAR = {Integer.MIN_VALUE, Integer.MAX_VALUE, -2, 64, 1 << 16};
 
     private final Random random;
     private final HorsesChoose program = new HorsesChoose();
@@ -13,6 +15,7 @@ public final class AgainstReferenceTest {
     private long want;
     private int horses = 0;
     private int riders = 0;
+    private int calls = 0;
 
     private AgainstReferenceTest(long seed) {
         random = new Random(seed);
@@ -28,9 +31,11 @@ public final class AgainstReferenceTest {
 
     private void go(Due due, int run) {
         tellFair();
-        for (int call = 0; call < CALLS; call++) {
+        // A step takes as many calls as to wipe, to write 76 bytes, to make the fair and to ask, at most.
+        while (calls + 79 <= CALLS) {
+            calls++;
             String name = step();
-            due.due("run " + run + ", call " + call + ": " + name, got, want);
+            due.due("run " + run + ", call " + calls + ": " + name, got, want);
         }
     }
 
@@ -72,14 +77,19 @@ public final class AgainstReferenceTest {
         return text.toString();
     }
 
-    private void tellFair() {
-        String text = fairText();
+    private void writeAnew(String text) {
+        calls += 1 + text.length();
         program.wipe();
         reference.wipe();
         Due.write(program, text);
         for (int i = 0; i < text.length(); i++) {
             reference.write(text.charAt(i));
         }
+    }
+
+    private void tellFair() {
+        writeAnew(fairText());
+        calls++;
         program.fair();
         reference.fair();
         horses = (int) reference.about(0);
@@ -92,16 +102,23 @@ public final class AgainstReferenceTest {
         return name;
     }
 
+    private int outside(int some) {
+        return below(3) == 0 ? FAR[below(FAR.length)] : below(some) - 1;
+    }
+
     private int someHorse() {
-        return rarely() || horses == 0 ? below(7) - 1 : below(horses);
+        return rarely() || horses == 0 ? outside(7) : below(horses);
     }
 
     private int someRider() {
-        return rarely() || riders == 0 ? below(8) - 1 : below(riders);
+        return rarely() || riders == 0 ? outside(8) : below(riders);
     }
 
     private int some(int least, int most) {
-        return rarely() ? (below(2) == 0 ? least - 1 : most + 1) : least + below(most - least + 1);
+        if (rarely()) {
+            return below(3) == 0 ? FAR[below(FAR.length)] : below(2) == 0 ? least - 1 : most + 1;
+        }
+        return least + below(most - least + 1);
     }
 
     private String step() {
@@ -145,12 +162,7 @@ public final class AgainstReferenceTest {
         if (text.length() > 0 && below(3) > 0) {
             text.setCharAt(below(text.length()), "FHR0123456789: /".charAt(below(16)));
         }
-        program.wipe();
-        reference.wipe();
-        Due.write(program, text.toString());
-        for (int i = 0; i < text.length(); i++) {
-            reference.write(text.charAt(i));
-        }
+        writeAnew(text.toString());
         return call("fault() of " + text, program.fault(), reference.fault());
     }
 
